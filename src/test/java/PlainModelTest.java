@@ -111,13 +111,13 @@ public final class PlainModelTest {
         }
 
         void typeStrokes() {
-            int kind = lots.below(4);
+            int kind = lots.below(5);
             int n = lots.below(9);
             for (int i = 0; i < n; i++) {
                 if (i > 0) {
                     type(1, ';');
                 }
-                int day = kind == 3 ? lots.below(20) : lots.below(6);
+                int day = kind == 3 ? lots.below(20) : kind == 4 ? lots.below(3) : lots.below(6);
                 type(1, '0' + day / 10);
                 type(1, '0' + day % 10);
                 type(1, '0' + (kind == 0 ? lots.below(6) : kind == 1 ? lots.below(2) : 1));
@@ -142,6 +142,7 @@ public final class PlainModelTest {
             } else if (act == 10) {
                 int text = lots.near(0, 1);
                 due("wipe(" + text + ")", real.wipe(text), plain.wipe(text));
+                look();
                 if (text == 0) {
                     typeDamps();
                 } else if (text == 1) {

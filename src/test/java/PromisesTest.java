@@ -103,6 +103,13 @@ public final class PromisesTest {
         is("wipe 2", x.wipe(2), BAD);
         is("wipe -1", x.wipe(-1), BAD);
         is("room again", x.type(0, 48), 1);
+        BoardRemembers y = oneThatComesUp();
+        is("come up", y.count(6), 1);
+        y.wipe(0);
+        is("no damps behind a wipe", y.count(6), 0);
+        is("a stroke", y.up(0), 0);
+        y.wipe(1);
+        is("no strokes behind a wipe", y.up(0), BAD);
         promise = 4;
         is("undo", x.undo(0), 0);
         is("undo empty", x.undo(0), NOT);
@@ -352,6 +359,8 @@ public final class PromisesTest {
         is("comes up on a fine day", two.stands(1, 0), 6);
         is("and is not weaker", two.state(1, 0, 1), 9);
         is("another is", two.state(1, 1, 1), 3);
+        is("weaker on day 0", board("2", "0000a5;0000b1").state(0, 0, 1), 4);
+        is("not weaker on day 0", board("3", "0000a5;0000b1").state(0, 0, 1), 5);
         BoardRemembers covered = board("", "0000a9;0100b1");
         is("weaker under what is written", covered.state(3, 0, 1), 6);
     }
@@ -433,6 +442,12 @@ public final class PromisesTest {
         is("the one that covers", cover.place(1, 0), 0);
         is("how many", cover.place(1, 1), 0);
         is("the other counts too", cover.place(0, 1), 0);
+        BoardRemembers nowhere = board("09", "0533a9;0000b9");
+        for (int line = 0; line < 6; line++) {
+            nowhere.clean(1, line);
+        }
+        is("no cell is better", nowhere.place(1, 0), 0);
+        is("how many", nowhere.place(1, 1), 1);
         is("place stroke 1", x.place(1, 0), BAD);
         is("place what 2", x.place(0, 2), BAD);
         is("place -1", x.place(0, -1), BAD);
@@ -524,6 +539,13 @@ public final class PromisesTest {
         for (long[] d : due) {
             is("above " + d[0] + " " + d[1], x.dryness((int) d[0], (int) d[1], (int) d[2], 0), d[3]);
             is("below " + d[0] + " " + d[1], x.dryness((int) d[0], (int) d[1], (int) d[2], 1), d[4]);
+        }
+        // A fine below which a damp lies, or does not; with 0 no dry day makes anything weaker.
+        int[][] fines = {{5, 4, 7, 8}, {6, 4, 1, 1}, {1, 4, 7, 8}, {0, 4, 1, 2}, {0, 3, 0, 1}};
+        for (int[] f : fines) {
+            x.fine(f[0]);
+            is("above with fine " + f[0], x.dryness(8, f[1], 4, 0), f[2]);
+            is("below with fine " + f[0], x.dryness(8, f[1], 4, 1), f[3]);
         }
         long bad = Long.MIN_VALUE + 2;
         is("17 sixteenths", x.dryness(17, 0, 0, 0), bad);
