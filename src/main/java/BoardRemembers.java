@@ -229,7 +229,8 @@ public final class BoardRemembers {
 
     public int most() {
         bringUpToDate();
-        int best = NONE, days = 0;
+        // Below 0, so that a stroke that comes up on no day is still told where none does better.
+        int best = NONE, days = -1;
         for (int k = 0; k < told.size; k++) {
             int ups = toldCourse.upsOf(only(k));
             if (ups > days) {

@@ -575,7 +575,7 @@ public final class PlainModelTest {
         int most() {
             int best = NONE;
             for (int k = strokes().size() - 1; k >= 0; k--) {
-                if (up(k) > 0 && (best == NONE || up(k) >= up(best))) {
+                if (best == NONE || up(k) >= up(best)) {
                     best = k;
                 }
             }

@@ -387,8 +387,16 @@ public final class PromisesTest {
         second.clean(1, 0);
         second.clean(1, 1);
         is("most", second.most(), 1);
-        is("most of none that comes up", board("", "0000a4").most(), NONE);
+        is("most, one that never comes up", board("", "0001b5").most(), 0);
+        is("most, all come up on 0 days", board("00556", "0900a4;0010c5;0000b4").most(), 0);
         is("most of no strokes", new BoardRemembers().most(), NONE);
+        is("most of no strokes, with damps", board("99999", "").most(), NONE);
+        BoardRemembers faulty = board("", "0001b5;");
+        is("most, with a fault there are no strokes", faulty.most(), NONE);
+        faulty.undo(1);
+        is("most, the fault undone", faulty.most(), 0);
+        faulty.wipe(1);
+        is("most, the strokes wiped", faulty.most(), NONE);
         promise = 19;
         BoardRemembers deep = board("", "0035a1;0035b1;0001c1;0101d1;0201e1");
         is("deep 0", deep.deep(0), 23);
