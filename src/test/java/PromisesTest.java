@@ -748,6 +748,15 @@ public final class PromisesTest {
         is("it changes nothing", x.digest(), digestByCalls(x));
         typed(x, 0, "?");
         is("with a fault", x.digest(), digestByCalls(x));
+        // Boards on which the days, cells and chances that go in differ from those beside them.
+        BoardRemembers lastDay = board("00000000000000000091", "0000a9;1900b9;1911c8");
+        lastDay.clean(18, 1);
+        is("day 19", lastDay.digest(), digestByCalls(lastDay));
+        BoardRemembers asks = board("0", "0300a9;0511b9;0801c8;1010d7;1212e6");
+        is("ask", asks.digest(), digestByCalls(asks));
+        BoardRemembers chance = board("05555555541", "0000a9;0101b5");
+        chance.clean(1, 0);
+        is("dryness", chance.digest(), digestByCalls(chance));
     }
 
     private static long digestByCalls(BoardRemembers x) {
